@@ -345,7 +345,7 @@ public final class FeedbackQueueSimulator {
     public int bestBoost(int ticks) throws IllegalArgumentException {
         needRange(ticks, 1, MOST_BOOST_TICKS);
         int best = 0;
-        int shortest = Integer.MAX_VALUE;
+        int shortest = ticks + 1;
         for (int period = 0; period <= MOST_BOOST_TRIED; period++) {
             copy.copyFrom(machine);
             copy.options[BOOST_PERIOD] = period;

@@ -120,6 +120,13 @@ public final class AccountingTest {
         x.run(20);
         Check.due("25: finished", x.state(2), 3);
         Check.due("25: in any state", x.suspects(), 4);
+        FeedbackQueueSimulator y = new FeedbackQueueSimulator();
+        y.setOption(4, 1);
+        for (int p = 0; p < 10; p++) {
+            y.spawn(0, 0, 3, p % 3 == 0 ? 1 : -1, p % 2 == 0 ? 2 : 1);
+        }
+        y.run(60);
+        Check.due("25: all with two units", y.suspects(), 1 + 4 + 16 + 64 + 256);
     }
 
     private static void late() {

@@ -79,6 +79,13 @@ public final class PredictionTest {
         // With a boost each tick the current process would keep the processor for ever.
         Check.due("31: quanta of level 0 alone", best, 2);
         Check.due("31: the option stays", x.setOption(0, 7), 7);
+        FeedbackQueueSimulator y = new FeedbackQueueSimulator();
+        y.setLevels(1);
+        y.setLevel(0, 12, 34, 0);
+        y.spawn(0, 0, 3, 28, 8);
+        y.spawn(0, 0, 24, 13, 1);
+        y.spawn(0, 0, 28, 1, 2);
+        Check.due("31: the greatest period", y.bestBoost(90), 20);
         Check.failsArgument("31: 0", x, () -> x.bestBoost(0));
         Check.failsArgument("31: 101", x, () -> x.bestBoost(101));
     }
@@ -104,6 +111,10 @@ public final class PredictionTest {
         Check.due("32: idle ticks alone", y.unfairnessBits(5), 0);
         Check.due("32: idle ticks do not count", y.unfairnessBits(10), distance(0.0f, 1.0f / 3.0f));
         Check.due("32: both wait", y.unfairnessBits(40), distance(0.5f, 2.0f / 3.0f));
+        y.run(100);
+        y.spawn(0, 0, 30, 0, 1);
+        y.spawn(3, 0, 30, 0, 1);
+        Check.due("32: idle ticks before now do not count either", y.unfairnessBits(3), distance(2.0f / 3.0f, 1.0f / 3.0f));
         Check.failsArgument("32: 0", x, () -> x.unfairnessBits(0));
         Check.failsArgument("32: 201", x, () -> x.unfairnessBits(201));
     }

@@ -84,6 +84,9 @@ public final class TextTest {
         Check.bad(x, "boots=1;", 0);
         Check.bad(x, "boos", 0);
         Check.bad(x, "boostx=1;", 0);
+        Check.bad(x, "latez=1;", 0);
+        Check.bad(x, "latea=1;", 0);
+        Check.bad(x, "late{=1;", 4);
         Check.bad(x, "5", 0);
         Check.bad(x, "Boost=1;", 0);
         Check.bad(x, "late=1;lates=1;", 7);
