@@ -103,7 +103,7 @@ public final class RandomRunsTest {
             }
             same("append", new int[] {packed});
         }
-        if (random.nextInt(5) > 0) {
+        if (calls.size() + 2 <= CALLS && !wrong && random.nextInt(5) > 0) {
             same("execute", new int[0]);
             same("errorPosition", new int[0]);
         }
