@@ -1,6 +1,8 @@
 /** What the tests share: comparing answers, expecting exceptions, putting texts. */
 final class Check {
     private static int wrong = 0;
+    private static String about = "";
+    private static String inside = "";
 
     interface Call {
         long answer();
@@ -9,17 +11,38 @@ final class Check {
     private Check() {
     }
 
+    /** What the answers that follow are about: it stands before the message of a wrong one. */
+    static void about(String sentence) {
+        about = sentence.isEmpty() ? "" : sentence + ": ";
+        inside = "";
+    }
+
+    static void inside(String part) {
+        inside = part.isEmpty() ? "" : part + ": ";
+    }
+
     static void due(String what, long got, long want) {
         if (got != want) {
-            wrong++;
-            System.out.println(what + " answered " + got + ", due is " + want);
+            tellWrong(what, "" + got, "" + want);
         }
     }
 
     static void due(String what, String got, String want) {
         if (!got.equals(want)) {
-            wrong++;
-            System.out.println(what + " answered " + got + ", due is " + want);
+            tellWrong(what, got, want);
+        }
+    }
+
+    private static void tellWrong(String what, String got, String want) {
+        wrong++;
+        System.out.println(about + inside + what + " answered " + got + ", due is " + want);
+    }
+
+    /** The processes that run in the next ticks, -1 for an idle one. */
+    static void ran(FeedbackQueueSimulator x, int... want) {
+        for (int process : want) {
+            int t = x.clock();
+            due("the tick at " + t, x.tick(), process);
         }
     }
 
