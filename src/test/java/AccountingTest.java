@@ -29,17 +29,17 @@ public final class AccountingTest {
             }
             Check.due("23: " + k, x.usageOf(entries[k][0], entries[k][1]), entries[k][2]);
         }
-        Check.failsIndex("22: entry 3", x, () -> x.usageEntry(3, 0));
-        Check.failsIndex("22: entry -1", x, () -> x.usageEntry(-1, 0));
-        Check.failsIndex("22: index before argument", x, () -> x.usageEntry(3, 3));
-        Check.failsArgument("22: 3", x, () -> x.usageEntry(0, 3));
-        Check.failsArgument("22: -1", x, () -> x.usageEntry(0, -1));
+        Check.failsIndex("22: entry 3", () -> x.usageEntry(3, 0));
+        Check.failsIndex("22: entry -1", () -> x.usageEntry(-1, 0));
+        Check.failsIndex("22: index before argument", () -> x.usageEntry(3, 3));
+        Check.failsArgument("22: 3", () -> x.usageEntry(0, 3));
+        Check.failsArgument("22: -1", () -> x.usageEntry(0, -1));
         Check.due("23: no entry", x.usageOf(0, 0), 0);
         Check.due("23: no entry", x.usageOf(1, 2), 0);
-        Check.failsIndex("23: user 4", x, () -> x.usageOf(4, 0));
-        Check.failsIndex("23: user -1", x, () -> x.usageOf(-1, 0));
-        Check.failsIndex("23: level 3", x, () -> x.usageOf(0, 3));
-        Check.failsIndex("23: level -1", x, () -> x.usageOf(0, -1));
+        Check.failsIndex("23: user 4", () -> x.usageOf(4, 0));
+        Check.failsIndex("23: user -1", () -> x.usageOf(-1, 0));
+        Check.failsIndex("23: level 3", () -> x.usageOf(0, 3));
+        Check.failsIndex("23: level -1", () -> x.usageOf(0, -1));
         fullTable();
     }
 
@@ -73,8 +73,8 @@ public final class AccountingTest {
             }
         }
         Check.due("24: another user", x.ratioBits(2), 0);
-        Check.failsIndex("24: user 4", x, () -> x.ratioBits(4));
-        Check.failsIndex("24: user -1", x, () -> x.ratioBits(-1));
+        Check.failsIndex("24: user 4", () -> x.ratioBits(4));
+        Check.failsIndex("24: user -1", () -> x.ratioBits(-1));
     }
 
     /** Many decays lead through the subnormal floats. */
@@ -86,9 +86,11 @@ public final class AccountingTest {
             x.setOption(1, 1);
             x.setOption(2, factor);
             float usage = 3.0f;
-            for (int k = 0; k < 400; k++) {
-                x.tick();
-                usage = usage * ((float) factor / 16.0f);
+            for (int k = 0; k < 160; k++) {
+                x.run(3);
+                for (int decays = 0; decays < 3; decays++) {
+                    usage = usage * ((float) factor / 16.0f);
+                }
                 x.setShare(0, k % 9 + 1);
                 Check.due("24: factor " + factor + ", " + k, x.ratioBits(0),
                         Float.floatToIntBits(usage / (float) (k % 9 + 1)));
@@ -131,7 +133,7 @@ public final class AccountingTest {
 
     private static void late() {
         FeedbackQueueSimulator x = new FeedbackQueueSimulator();
-        Check.failsIndex("26: none", x, () -> x.lateBits(0));
+        Check.failsIndex("26: none", () -> x.lateBits(0));
         x.setLevels(1);
         x.setLevel(0, 20, 40, 0);
         x.spawn(0, 0, 1, -1, 20);
@@ -147,8 +149,8 @@ public final class AccountingTest {
             Check.due("26: late", x.property(0, 10), late);
             Check.due("26: share", x.lateBits(0), Double.doubleToLongBits((double) late / (double) budget));
         }
-        Check.failsIndex("26: process 1", x, () -> x.lateBits(1));
-        Check.failsIndex("26: process -1", x, () -> x.lateBits(-1));
+        Check.failsIndex("26: process 1", () -> x.lateBits(1));
+        Check.failsIndex("26: process -1", () -> x.lateBits(-1));
     }
 
     private static void means() {
@@ -159,9 +161,9 @@ public final class AccountingTest {
         x.tick();
         x.spawn(0, 0, 1, 0, 1);
         x.spawn(0, 0, 30, 0, 1);
-        Check.failsState("27: none finished", x, () -> x.meanBits(0));
-        Check.failsArgument("27: argument before state", x, () -> x.meanBits(3));
-        Check.failsArgument("27: -1", x, () -> x.meanBits(-1));
+        Check.failsState("27: none finished", () -> x.meanBits(0));
+        Check.failsArgument("27: argument before state", () -> x.meanBits(3));
+        Check.failsArgument("27: -1", () -> x.meanBits(-1));
         x.kill(3);
         x.run(10);
         // 0 runs at 5 6 10, 1 at 7 8, 2 at 9.
@@ -199,7 +201,7 @@ public final class AccountingTest {
         y.spawn(0, 0, 1, 0, 1);
         y.run(1);
         Check.due("28: preemptions", y.total(2), 1);
-        Check.failsArgument("28: 8", x, () -> x.total(8));
-        Check.failsArgument("28: -1", x, () -> x.total(-1));
+        Check.failsArgument("28: 8", () -> x.total(8));
+        Check.failsArgument("28: -1", () -> x.total(-1));
     }
 }

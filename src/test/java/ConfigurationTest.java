@@ -28,15 +28,15 @@ public final class ConfigurationTest {
         for (int level = 0; level < 3; level++) {
             Check.due("1: queue of " + level, x.queueLength(level), 0);
         }
-        Check.failsIndex("1: level 3", x, () -> x.queueLength(3));
-        Check.failsIndex("1: process 0", x, () -> x.state(0));
-        Check.failsIndex("1: history", x, () -> x.history(0));
+        Check.failsIndex("1: level 3", () -> x.queueLength(3));
+        Check.failsIndex("1: process 0", () -> x.state(0));
+        Check.failsIndex("1: history", () -> x.history(0));
         for (int pin = 0; pin < 3; pin++) {
             int empty = pin;
-            Check.failsState("1: pin " + pin, x, () -> x.unpin(empty));
+            Check.failsState("1: pin " + pin, () -> x.unpin(empty));
         }
-        Check.failsState("1: means", x, () -> x.meanBits(0));
-        Check.failsState("1: snapshot", x, x::restore);
+        Check.failsState("1: means", () -> x.meanBits(0));
+        Check.failsState("1: snapshot", x::restore);
         for (int user = 0; user < 4; user++) {
             Check.due("1: ratio of " + user, x.ratioBits(user), 0);
             Check.due("1: weight of " + user, x.setShare(user, 1), 1);
@@ -76,12 +76,12 @@ public final class ConfigurationTest {
     private static void levels() {
         FeedbackQueueSimulator x = new FeedbackQueueSimulator();
         Check.due("2: to 1", x.setLevels(1), 3);
-        Check.failsIndex("2: level 1", x, () -> x.queueLength(1));
+        Check.failsIndex("2: level 1", () -> x.queueLength(1));
         Check.due("2: to 5", x.setLevels(5), 1);
         Check.due("2: level 4", x.queueLength(4), 0);
-        Check.failsArgument("2: 0", x, () -> x.setLevels(0));
-        Check.failsArgument("2: 6", x, () -> x.setLevels(6));
-        Check.failsArgument("2: least int", x, () -> x.setLevels(Integer.MIN_VALUE));
+        Check.failsArgument("2: 0", () -> x.setLevels(0));
+        Check.failsArgument("2: 6", () -> x.setLevels(6));
+        Check.failsArgument("2: least int", () -> x.setLevels(Integer.MIN_VALUE));
         Check.due("2: to 2", x.setLevels(2), 5);
         x.setLevel(1, 9, 9, 0);
         x.setLevels(1);
@@ -89,28 +89,28 @@ public final class ConfigurationTest {
         Check.due("2: its quantum", x.setLevel(1, 4, 8, 0), 9);
         x.setLevels(1);
         x.spawn(0, 0, 30, 0, 1);
-        Check.failsState("2: with a process", x, () -> x.setLevels(2));
-        Check.failsArgument("2: argument before state", x, () -> x.setLevels(6));
+        Check.failsState("2: with a process", () -> x.setLevels(2));
+        Check.failsArgument("2: argument before state", () -> x.setLevels(6));
         x.run(20);
         Check.due("2: no level below", x.property(0, 2), 0);
         Check.due("2: no demotion", x.property(0, 11), 0);
         x.kill(0);
-        Check.failsState("2: with a killed process", x, () -> x.setLevels(2));
+        Check.failsState("2: with a killed process", () -> x.setLevels(2));
     }
 
     private static void level() {
         FeedbackQueueSimulator x = new FeedbackQueueSimulator();
         Check.due("3: edges above", x.setLevel(2, 20, 40, 1), 8);
         Check.due("3: edges below", x.setLevel(2, 1, 1, 0), 20);
-        Check.failsIndex("3: level 3", x, () -> x.setLevel(3, 1, 1, 0));
-        Check.failsIndex("3: level -1", x, () -> x.setLevel(-1, 1, 1, 0));
-        Check.failsIndex("3: index before argument", x, () -> x.setLevel(3, 0, 0, 2));
-        Check.failsArgument("3: quantum 0", x, () -> x.setLevel(2, 0, 1, 0));
-        Check.failsArgument("3: quantum 21", x, () -> x.setLevel(2, 21, 1, 0));
-        Check.failsArgument("3: allotment 0", x, () -> x.setLevel(2, 5, 0, 0));
-        Check.failsArgument("3: allotment 41", x, () -> x.setLevel(2, 5, 41, 0));
-        Check.failsArgument("3: policy -1", x, () -> x.setLevel(2, 5, 5, -1));
-        Check.failsArgument("3: policy 2", x, () -> x.setLevel(2, 5, 5, 2));
+        Check.failsIndex("3: level 3", () -> x.setLevel(3, 1, 1, 0));
+        Check.failsIndex("3: level -1", () -> x.setLevel(-1, 1, 1, 0));
+        Check.failsIndex("3: index before argument", () -> x.setLevel(3, 0, 0, 2));
+        Check.failsArgument("3: quantum 0", () -> x.setLevel(2, 0, 1, 0));
+        Check.failsArgument("3: quantum 21", () -> x.setLevel(2, 21, 1, 0));
+        Check.failsArgument("3: allotment 0", () -> x.setLevel(2, 5, 0, 0));
+        Check.failsArgument("3: allotment 41", () -> x.setLevel(2, 5, 41, 0));
+        Check.failsArgument("3: policy -1", () -> x.setLevel(2, 5, 5, -1));
+        Check.failsArgument("3: policy 2", () -> x.setLevel(2, 5, 5, 2));
         Check.due("3: quantum after exceptions", x.setLevel(2, 1, 1, 0), 1);
     }
 
@@ -136,13 +136,13 @@ public final class ConfigurationTest {
             int option = k;
             Check.due("4: option " + k, x.setOption(k, OPTION_MOST[k]), OPTION_FIRST[k]);
             Check.due("4: option " + k, x.setOption(k, OPTION_LEAST[k]), OPTION_MOST[k]);
-            Check.failsArgument("4: above " + k, x, () -> x.setOption(option, OPTION_MOST[option] + 1));
-            Check.failsArgument("4: below " + k, x, () -> x.setOption(option, OPTION_LEAST[option] - 1));
+            Check.failsArgument("4: above " + k, () -> x.setOption(option, OPTION_MOST[option] + 1));
+            Check.failsArgument("4: below " + k, () -> x.setOption(option, OPTION_LEAST[option] - 1));
             Check.due("4: option " + k, x.setOption(k, OPTION_FIRST[k]), OPTION_LEAST[k]);
         }
-        Check.failsIndex("4: option 6", x, () -> x.setOption(6, 0));
-        Check.failsIndex("4: option -1", x, () -> x.setOption(-1, 0));
-        Check.failsIndex("4: index before argument", x, () -> x.setOption(6, 1000));
+        Check.failsIndex("4: option 6", () -> x.setOption(6, 0));
+        Check.failsIndex("4: option -1", () -> x.setOption(-1, 0));
+        Check.failsIndex("4: index before argument", () -> x.setOption(6, 1000));
     }
 
     private static void shares() {
@@ -150,13 +150,13 @@ public final class ConfigurationTest {
         for (int k = 0; k < 4; k++) {
             int user = k;
             Check.due("5: user " + k, x.setShare(k, 9), 1);
-            Check.failsArgument("5: weight 0", x, () -> x.setShare(user, 0));
-            Check.failsArgument("5: weight 10", x, () -> x.setShare(user, 10));
+            Check.failsArgument("5: weight 0", () -> x.setShare(user, 0));
+            Check.failsArgument("5: weight 10", () -> x.setShare(user, 10));
             Check.due("5: user " + k, x.setShare(k, k + 1), 9);
             Check.due("5: user " + k, x.setShare(k, k + 1), k + 1);
         }
-        Check.failsIndex("5: user 4", x, () -> x.setShare(4, 1));
-        Check.failsIndex("5: user -1", x, () -> x.setShare(-1, 1));
-        Check.failsIndex("5: index before argument", x, () -> x.setShare(4, 0));
+        Check.failsIndex("5: user 4", () -> x.setShare(4, 1));
+        Check.failsIndex("5: user -1", () -> x.setShare(-1, 1));
+        Check.failsIndex("5: index before argument", () -> x.setShare(4, 0));
     }
 }

@@ -107,7 +107,7 @@ final class Eyes {
     /** What comes shows the allotments and policies, which no call answers. */
     private static String future(FeedbackQueueSimulator x) {
         StringBuilder seen = new StringBuilder();
-        for (int k = 0; k < 200; k++) {
+        for (int k = 0; k < 120; k++) {
             note(seen, x::tick);
         }
         return seen.append(processes(x)).toString();

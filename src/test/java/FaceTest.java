@@ -1,11 +1,16 @@
+import java.io.IOException;
 import java.lang.management.ManagementFactory;
 import java.lang.reflect.Constructor;
 import java.lang.reflect.Field;
 import java.lang.reflect.Method;
 import java.lang.reflect.Modifier;
+import java.nio.file.Files;
+import java.nio.file.Path;
 import java.util.Arrays;
 import java.util.Set;
 import java.util.TreeSet;
+import java.util.regex.Matcher;
+import java.util.regex.Pattern;
 
 /** The public face of the document, rule 1 of the language, and the room that the dearest calls take. */
 public final class FaceTest {
@@ -17,8 +22,11 @@ public final class FaceTest {
             + " long meanBits(int) int total(int) int predictEnd(int,int) int starvation(int,int) int bestBoost(int)"
             + " int unfairnessBits(int) int gain(int,int) int switchesWith(int,int,int) int save() int restore()";
 
-    public static void main(String[] args) {
+    private static final Path DOCUMENT = Path.of("..", "shared", "DOC.md");
+
+    public static void main(String[] args) throws IOException {
         face();
+        exceptions();
         members();
         room();
         Check.end();
@@ -43,6 +51,31 @@ public final class FaceTest {
         Check.due("constructors", constructors.length, 1);
         Check.due("its parameters", constructors[0].getParameterCount(), 0);
         Check.due("public", Modifier.isPublic(constructors[0].getModifiers()) ? 1 : 0, 1);
+    }
+
+    /** The throws clauses, as the face in the document writes them. */
+    private static void exceptions() throws IOException {
+        if (!Files.exists(DOCUMENT)) {
+            System.out.println(DOCUMENT + " was not found: the throws clauses were not compared with it");
+            return;
+        }
+        Matcher lines = Pattern.compile("    public (?:int|long) (\\w+)\\([^)]*\\)(?: throws ([\\w, ]+))?;")
+                .matcher(Files.readString(DOCUMENT));
+        int found = 0;
+        while (lines.find()) {
+            found++;
+            for (Method method : FeedbackQueueSimulator.class.getDeclaredMethods()) {
+                if (method.getName().equals(lines.group(1))) {
+                    StringBuilder names = new StringBuilder();
+                    for (Class<?> type : method.getExceptionTypes()) {
+                        names.append(names.length() == 0 ? "" : ", ").append(type.getSimpleName());
+                    }
+                    String due = lines.group(2) == null ? "" : lines.group(2);
+                    Check.due("the exceptions of " + method.getName(), names.toString(), due);
+                }
+            }
+        }
+        Check.due("methods in the document", found, FACE.split("(?<=\\)) ").length);
     }
 
     private static void members() {

@@ -122,6 +122,9 @@ final class PredictionCases {
             x.spawn(0, 0, 1, 0, 1);
             Check.due("one waits once", x.starvation(1, 1), 1);
             Check.due("one waits once", x.starvation(1, 0), 1);
+            x.kill(1);
+            Check.due("alone again", x.starvation(200, 1), -1);
+            Check.due("alone again", x.starvation(200, 0), 0);
             Check.due("all ended", States.OVER.get().starvation(200, 1), -1);
         });
         s.test(30, "Throws IllegalArgumentException if an argument is out of range", () -> {
@@ -254,6 +257,16 @@ final class PredictionCases {
                 float two = distance(2.0f / 3.0f, 1.0f / (float) (weight + 1));
                 Check.due("weight " + weight, x.unfairnessBits(10), Float.floatToIntBits(one > two ? one : two));
             }
+            // Idle ticks and ticks of a user that were before now do not count.
+            FeedbackQueueSimulator later = new FeedbackQueueSimulator();
+            later.run(200);
+            later.spawn(0, 0, 30, 0, 1);
+            later.spawn(1, 0, 30, 0, 1);
+            later.run(9);
+            later.setShare(0, 4);
+            Check.due("current is process 0", later.state(0), 1);
+            Check.due("4 ticks, of which user 0 has 3", later.unfairnessBits(4),
+                    Float.floatToIntBits(distance(3.0f / 4.0f, 4.0f / 5.0f)));
         });
         s.test(32, "ticks: the number of ticks that are simulated, 1 to 200", () -> {
             for (Supplier<FeedbackQueueSimulator> state : States.ALL) {
@@ -276,6 +289,14 @@ final class PredictionCases {
             x.setShare(0, 9);
             x.setShare(1, 1);
             Check.due("target above part", x.unfairnessBits(1), Float.floatToIntBits(distance(0.0f, 9.0f / 10.0f)));
+            // Each user in turn has the tick, and the greatest difference.
+            for (int user = 0; user < 4; user++) {
+                FeedbackQueueSimulator y = new FeedbackQueueSimulator();
+                for (int p = 0; p < 4; p++) {
+                    y.spawn((user + p) % 4, 0, 30, 0, 1);
+                }
+                Check.due("user " + user, y.unfairnessBits(1), Float.floatToIntBits(distance(1.0f, 0.25f)));
+            }
         });
         s.test(32, "Throws IllegalArgumentException if the number is out of range", () -> {
             for (Supplier<FeedbackQueueSimulator> state : States.ALL) {

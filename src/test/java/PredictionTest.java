@@ -13,7 +13,7 @@ public final class PredictionTest {
 
     private static void ends() {
         FeedbackQueueSimulator x = new FeedbackQueueSimulator();
-        Check.failsIndex("29: none", x, () -> x.predictEnd(0, 1));
+        Check.failsIndex("29: none", () -> x.predictEnd(0, 1));
         x.run(3);
         x.spawn(0, 0, 4, 0, 1);
         x.spawn(0, 0, 2, 30, 2);
@@ -27,10 +27,10 @@ public final class PredictionTest {
         Check.due("29: finished", x.predictEnd(0, 1), 11);
         x.kill(1);
         Check.due("29: killed", x.predictEnd(1, 400), -1);
-        Check.failsIndex("29: process 3", x, () -> x.predictEnd(3, 1));
-        Check.failsIndex("29: index before argument", x, () -> x.predictEnd(-1, 0));
-        Check.failsArgument("29: limit 0", x, () -> x.predictEnd(0, 0));
-        Check.failsArgument("29: limit 401", x, () -> x.predictEnd(0, 401));
+        Check.failsIndex("29: process 3", () -> x.predictEnd(3, 1));
+        Check.failsIndex("29: index before argument", () -> x.predictEnd(-1, 0));
+        Check.failsArgument("29: limit 0", () -> x.predictEnd(0, 0));
+        Check.failsArgument("29: limit 401", () -> x.predictEnd(0, 401));
     }
 
     private static void starvation() {
@@ -52,10 +52,10 @@ public final class PredictionTest {
         Check.due("30: waits before now do not count", x.starvation(3, 0), 3);
         Check.due("30: process", x.starvation(3, 1), 1);
         Check.due("30: a tick of its own ends it", x.starvation(4, 0), 3);
-        Check.failsArgument("30: 0", x, () -> x.starvation(0, 0));
-        Check.failsArgument("30: 201", x, () -> x.starvation(201, 0));
-        Check.failsArgument("30: what 2", x, () -> x.starvation(1, 2));
-        Check.failsArgument("30: what -1", x, () -> x.starvation(1, -1));
+        Check.failsArgument("30: 0", () -> x.starvation(0, 0));
+        Check.failsArgument("30: 201", () -> x.starvation(201, 0));
+        Check.failsArgument("30: what 2", () -> x.starvation(1, 2));
+        Check.failsArgument("30: what -1", () -> x.starvation(1, -1));
     }
 
     private static void boosts() {
@@ -86,8 +86,8 @@ public final class PredictionTest {
         y.spawn(0, 0, 24, 13, 1);
         y.spawn(0, 0, 28, 1, 2);
         Check.due("31: the greatest period", y.bestBoost(90), 20);
-        Check.failsArgument("31: 0", x, () -> x.bestBoost(0));
-        Check.failsArgument("31: 101", x, () -> x.bestBoost(101));
+        Check.failsArgument("31: 0", () -> x.bestBoost(0));
+        Check.failsArgument("31: 101", () -> x.bestBoost(101));
     }
 
     private static void unfairness() {
@@ -115,8 +115,8 @@ public final class PredictionTest {
         y.spawn(0, 0, 30, 0, 1);
         y.spawn(3, 0, 30, 0, 1);
         Check.due("32: idle ticks before now do not count either", y.unfairnessBits(3), distance(2.0f / 3.0f, 1.0f / 3.0f));
-        Check.failsArgument("32: 0", x, () -> x.unfairnessBits(0));
-        Check.failsArgument("32: 201", x, () -> x.unfairnessBits(201));
+        Check.failsArgument("32: 0", () -> x.unfairnessBits(0));
+        Check.failsArgument("32: 201", () -> x.unfairnessBits(201));
     }
 
     private static int distance(float part, float target) {
@@ -146,10 +146,10 @@ public final class PredictionTest {
             Check.due("33: the other one's loss", x.gain(1, 60), strict - lenient);
             x.run(5);
         }
-        Check.failsIndex("33: process 2", x, () -> x.gain(2, 1));
-        Check.failsIndex("33: index before argument", x, () -> x.gain(-1, 0));
-        Check.failsArgument("33: 0", x, () -> x.gain(0, 0));
-        Check.failsArgument("33: 201", x, () -> x.gain(0, 201));
+        Check.failsIndex("33: process 2", () -> x.gain(2, 1));
+        Check.failsIndex("33: index before argument", () -> x.gain(-1, 0));
+        Check.failsArgument("33: 0", () -> x.gain(0, 0));
+        Check.failsArgument("33: 201", () -> x.gain(0, 201));
     }
 
     private static void switches() {
@@ -164,23 +164,23 @@ public final class PredictionTest {
         x.tick();
         // The current process keeps its remaining tick: 0, then 1 for 6 ticks, then 0.
         Check.due("34: the remaining quantum stays", x.switchesWith(0, 6, 12), 2 - 6);
-        Check.failsIndex("34: level 1", x, () -> x.switchesWith(1, 1, 1));
-        Check.failsIndex("34: index before argument", x, () -> x.switchesWith(-1, 0, 0));
-        Check.failsArgument("34: quantum 0", x, () -> x.switchesWith(0, 0, 1));
-        Check.failsArgument("34: quantum 21", x, () -> x.switchesWith(0, 21, 1));
-        Check.failsArgument("34: ticks 0", x, () -> x.switchesWith(0, 1, 0));
-        Check.failsArgument("34: ticks 201", x, () -> x.switchesWith(0, 1, 201));
+        Check.failsIndex("34: level 1", () -> x.switchesWith(1, 1, 1));
+        Check.failsIndex("34: index before argument", () -> x.switchesWith(-1, 0, 0));
+        Check.failsArgument("34: quantum 0", () -> x.switchesWith(0, 0, 1));
+        Check.failsArgument("34: quantum 21", () -> x.switchesWith(0, 21, 1));
+        Check.failsArgument("34: ticks 0", () -> x.switchesWith(0, 1, 0));
+        Check.failsArgument("34: ticks 201", () -> x.switchesWith(0, 1, 201));
     }
 
     private static void nothingChanges() {
-        FeedbackQueueSimulator x = new FeedbackQueueSimulator();
-        Check.good(x, "boost=30;decay=9;level1=3,5,1;", 3);
-        Check.good(x, "spawn01=(c3i4)9;spawn10=(c9y)9;", 2);
-        x.spawn(2, 0, 4, 1, 9);
-        x.pin(1, 0);
-        x.save();
         for (int k = 0; k < 20; k++) {
-            x.run(3);
+            FeedbackQueueSimulator x = new FeedbackQueueSimulator();
+            Check.good(x, "boost=30;decay=9;level1=3,5,1;", 3);
+            Check.good(x, "spawn01=(c3i4)9;spawn10=(c9y)9;", 2);
+            x.spawn(2, 0, 4, 1, 9);
+            x.pin(1, 0);
+            x.save();
+            x.run(3 + 3 * k);
             String before = Check.look(x);
             x.predictEnd(1, 400);
             x.starvation(200, 0);
@@ -189,7 +189,7 @@ public final class PredictionTest {
             x.gain(0, 200);
             x.switchesWith(1, 20, 200);
             Check.due("29 to 34: the machine stays as it is", Check.look(x), before);
+            Check.due("29 to 34: the snapshot too", x.restore(), 0);
         }
-        Check.due("29 to 34: the snapshot too", x.restore(), 0);
     }
 }

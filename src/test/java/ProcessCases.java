@@ -96,7 +96,18 @@ final class ProcessCases {
             Check.due("level", x.property(p, 2), 0);
             Check.due("budget", x.property(p, 3), 0);
             Check.due("place", x.queued(0, p - 1), p);
+            int[] due = {0, 0, 0, 0, 0, 0, 0, -1, -1, 0, 0, 0};
+            for (int what = 0; what < 12; what++) {
+                Check.due("property " + what, x.property(p, what), due[what]);
+            }
         }
+        // The clock when it was created is known of those that a text creates too.
+        FeedbackQueueSimulator y = new FeedbackQueueSimulator();
+        y.run(9);
+        Check.good(y, "spawn00=c3;", 1);
+        y.run(3);
+        Check.due("turnaround", y.meanBits(1), Double.doubleToLongBits(3.0));
+        Check.due("response", y.meanBits(2), Double.doubleToLongBits(0.0));
     }
 
     private static void allStates() {
@@ -121,7 +132,7 @@ final class ProcessCases {
         none.spawn(0, 0, 2, 0, 1);
         Check.due("none before the first tick", none.state(0), 0);
         FeedbackQueueSimulator x = States.FULL.get();
-        for (int t = 0; t < 40; t++) {
+        for (int t = 0; t < 20; t++) {
             int running = x.tick();
             int current = 0;
             for (int p = 0; p < 10; p++) {

@@ -23,18 +23,18 @@ public final class ProcessTest {
             }
         }
         Check.due("9: created", x.total(5), 3);
-        Check.failsIndex("9: user 4", x, () -> x.spawn(4, 0, 1, 0, 1));
-        Check.failsIndex("9: user -1", x, () -> x.spawn(-1, 0, 1, 0, 1));
-        Check.failsIndex("9: index before argument", x, () -> x.spawn(4, 2, 0, -2, 0));
-        Check.failsArgument("9: kind 2", x, () -> x.spawn(0, 2, 1, 0, 1));
-        Check.failsArgument("9: kind -1", x, () -> x.spawn(0, -1, 1, 0, 1));
-        Check.failsArgument("9: cpu 0", x, () -> x.spawn(0, 0, 0, 0, 1));
-        Check.failsArgument("9: cpu 31", x, () -> x.spawn(0, 0, 31, 0, 1));
-        Check.failsArgument("9: io -2", x, () -> x.spawn(0, 0, 1, -2, 1));
-        Check.failsArgument("9: io 31", x, () -> x.spawn(0, 0, 1, 31, 1));
-        Check.failsArgument("9: rounds 0", x, () -> x.spawn(0, 0, 1, 0, 0));
-        Check.failsArgument("9: rounds 21", x, () -> x.spawn(0, 0, 1, 0, 21));
-        Check.failsArgument("9: rounds far below", x, () -> x.spawn(0, 0, 1, 0, Integer.MIN_VALUE));
+        Check.failsIndex("9: user 4", () -> x.spawn(4, 0, 1, 0, 1));
+        Check.failsIndex("9: user -1", () -> x.spawn(-1, 0, 1, 0, 1));
+        Check.failsIndex("9: index before argument", () -> x.spawn(4, 2, 0, -2, 0));
+        Check.failsArgument("9: kind 2", () -> x.spawn(0, 2, 1, 0, 1));
+        Check.failsArgument("9: kind -1", () -> x.spawn(0, -1, 1, 0, 1));
+        Check.failsArgument("9: cpu 0", () -> x.spawn(0, 0, 0, 0, 1));
+        Check.failsArgument("9: cpu 31", () -> x.spawn(0, 0, 31, 0, 1));
+        Check.failsArgument("9: io -2", () -> x.spawn(0, 0, 1, -2, 1));
+        Check.failsArgument("9: io 31", () -> x.spawn(0, 0, 1, 31, 1));
+        Check.failsArgument("9: rounds 0", () -> x.spawn(0, 0, 1, 0, 0));
+        Check.failsArgument("9: rounds 21", () -> x.spawn(0, 0, 1, 0, 21));
+        Check.failsArgument("9: rounds far below", () -> x.spawn(0, 0, 1, 0, Integer.MIN_VALUE));
         // Process 2 has two units of one tick without a give-up, process 1 one unit.
         x.kill(0);
         Check.due("9: process 1", x.tick(), 1);
@@ -51,17 +51,17 @@ public final class ProcessTest {
         for (int p = 0; p < 10; p++) {
             Check.due("9: number", x.spawn(p % 4, p % 2, 1, 0, 1), p);
         }
-        Check.failsState("9: 11", x, () -> x.spawn(0, 0, 1, 0, 1));
-        Check.failsArgument("9: argument before state", x, () -> x.spawn(0, 0, 0, 0, 1));
-        Check.failsIndex("9: index before state", x, () -> x.spawn(4, 0, 1, 0, 1));
+        Check.failsState("9: 11", () -> x.spawn(0, 0, 1, 0, 1));
+        Check.failsArgument("9: argument before state", () -> x.spawn(0, 0, 0, 0, 1));
+        Check.failsIndex("9: index before state", () -> x.spawn(4, 0, 1, 0, 1));
         x.run(20);
         Check.due("9: finished", x.total(6), 10);
-        Check.failsState("9: finished ones count", x, () -> x.spawn(0, 0, 1, 0, 1));
+        Check.failsState("9: finished ones count", () -> x.spawn(0, 0, 1, 0, 1));
     }
 
     private static void killing() {
         FeedbackQueueSimulator x = new FeedbackQueueSimulator();
-        Check.failsIndex("10: none", x, () -> x.kill(0));
+        Check.failsIndex("10: none", () -> x.kill(0));
         x.spawn(0, 1, 1, 3, 2);
         x.spawn(0, 0, 2, 0, 2);
         x.spawn(0, 0, 1, 0, 1);
@@ -80,10 +80,10 @@ public final class ProcessTest {
         Check.due("10: killed", x.total(7), 3);
         Check.due("10: the processor is free", x.tick(), 3);
         Check.due("10: idle although its operation would have ended", x.run(5), 5);
-        Check.failsState("10: killed", x, () -> x.kill(0));
-        Check.failsState("10: finished", x, () -> x.kill(3));
-        Check.failsIndex("10: no such process", x, () -> x.kill(4));
-        Check.failsIndex("10: -1", x, () -> x.kill(-1));
+        Check.failsState("10: killed", () -> x.kill(0));
+        Check.failsState("10: finished", () -> x.kill(3));
+        Check.failsIndex("10: no such process", () -> x.kill(4));
+        Check.failsIndex("10: -1", () -> x.kill(-1));
         Check.due("10: finished ones", x.total(6), 1);
     }
 
@@ -95,20 +95,20 @@ public final class ProcessTest {
         x.kill(0);
         Check.due("11: a killed process", x.pin(2, 0), 1);
         Check.due("11: second", x.pin(0, 2), 2);
-        Check.failsIndex("11: pin 3", x, () -> x.pin(3, 3));
-        Check.failsIndex("11: pin -1", x, () -> x.pin(-1, 3));
-        Check.failsIndex("11: process 5", x, () -> x.pin(1, 5));
-        Check.failsIndex("11: process -1", x, () -> x.pin(1, -1));
-        Check.failsArgument("11: batch", x, () -> x.pin(1, 1));
-        Check.failsArgument("11: argument before state", x, () -> x.pin(0, 1));
-        Check.failsState("11: the pin is taken", x, () -> x.pin(0, 3));
-        Check.failsState("11: the process is held", x, () -> x.pin(1, 2));
+        Check.failsIndex("11: pin 3", () -> x.pin(3, 3));
+        Check.failsIndex("11: pin -1", () -> x.pin(-1, 3));
+        Check.failsIndex("11: process 5", () -> x.pin(1, 5));
+        Check.failsIndex("11: process -1", () -> x.pin(1, -1));
+        Check.failsArgument("11: batch", () -> x.pin(1, 1));
+        Check.failsArgument("11: argument before state", () -> x.pin(0, 1));
+        Check.failsState("11: the pin is taken", () -> x.pin(0, 3));
+        Check.failsState("11: the process is held", () -> x.pin(1, 2));
         Check.due("11: third", x.pin(1, 3), 3);
-        Check.failsIndex("12: pin 3", x, () -> x.unpin(3));
-        Check.failsIndex("12: pin -1", x, () -> x.unpin(-1));
+        Check.failsIndex("12: pin 3", () -> x.unpin(3));
+        Check.failsIndex("12: pin -1", () -> x.unpin(-1));
         x.kill(3);
         Check.due("10: a pin goes on holding it", x.unpin(1), 3);
-        Check.failsState("12: empty", x, () -> x.unpin(1));
+        Check.failsState("12: empty", () -> x.unpin(1));
         Check.due("12: held", x.unpin(2), 0);
         Check.due("12: held", x.unpin(0), 2);
         Check.due("11: again", x.pin(0, 0), 1);

@@ -47,16 +47,12 @@ final class SnapshotCases {
     }
 
     private static void everything() {
+        for (Function<FeedbackQueueSimulator, String> eye : Eyes.OF_MACHINE) {
+            comesBack(SnapshotCases::notRunYet, eye);
+        }
         for (Supplier<FeedbackQueueSimulator> state : States.ALL) {
             for (Function<FeedbackQueueSimulator, String> eye : Eyes.OF_MACHINE) {
-                FeedbackQueueSimulator x = state.get();
-                x.save();
-                upset(x);
-                x.restore();
-                // The state with the snapshot of itself: what the eye for snapshots must find.
-                FeedbackQueueSimulator like = state.get();
-                like.save();
-                Check.due("restored", eye.apply(x), eye.apply(like));
+                comesBack(state, eye);
             }
             FeedbackQueueSimulator x = state.get();
             x.save();
@@ -70,6 +66,41 @@ final class SnapshotCases {
             Check.due("the error position stays", y.errorPosition(), error);
         }
         bufferAndErrorAreNotSaved();
+    }
+
+    private static void comesBack(Supplier<FeedbackQueueSimulator> state, Function<FeedbackQueueSimulator, String> eye) {
+        // The state with the snapshot of itself: what the eye for snapshots must find.
+        FeedbackQueueSimulator like = state.get();
+        like.save();
+        String due = eye.apply(like);
+        FeedbackQueueSimulator ran = state.get();
+        ran.save();
+        goOn(ran);
+        ran.restore();
+        Check.due("restored behind many ticks", eye.apply(ran), due);
+        FeedbackQueueSimulator upset = state.get();
+        upset.save();
+        upset(upset);
+        upset.restore();
+        Check.due("restored behind many changes", eye.apply(upset), due);
+    }
+
+    private static FeedbackQueueSimulator notRunYet() {
+        FeedbackQueueSimulator x = new FeedbackQueueSimulator();
+        x.run(3);
+        for (int p = 0; p < 5; p++) {
+            x.spawn(p % 4, p % 2, 3, p - 1, 4);
+        }
+        return x;
+    }
+
+    /** All that processes count goes on. */
+    private static void goOn(FeedbackQueueSimulator x) {
+        x.setOption(0, 0);
+        x.setOption(3, 9);
+        for (int k = 0; k < 10; k++) {
+            x.run(100);
+        }
     }
 
     private static String textBehind(FeedbackQueueSimulator x) {

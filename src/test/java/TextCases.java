@@ -231,6 +231,9 @@ final class TextCases {
                 bad("s" + word + "=1;", 0);
                 bad(word.toUpperCase(java.util.Locale.ROOT) + "=1;", 0);
                 bad(word + word + "=1;", 0);
+                for (int k = 0; k < word.length(); k++) {
+                    bad(word.substring(0, k) + "z" + word.substring(k + 1) + "=1;", 0);
+                }
             }
         });
     }
@@ -255,6 +258,9 @@ final class TextCases {
         s.test(DESCRIPTION, "program = unit { unit }", () -> {
             bad("spawn00=;", 8);
             bad("spawn00=()1;", 9);
+            bad("spawn00=c1()1;", 11);
+            bad("spawn00=(c1()1)1;", 12);
+            bad("spawn00=(c1)1()1;", 14);
             good("spawn00=c1;", 1);
             good("spawn00=(c1)1;", 1);
             good("spawn00=c1(c1)1c1(c1c1)1;", 1);

@@ -108,9 +108,27 @@ final class TextErrorCases {
                 }
             }
             bad("", 0);
+            endsBehindLongerTexts();
             bad("late=1;late=2;late=3;late=4;late=5;late=6;late=7;late=8;late", 60);
             bad("late=1;late=2;late=3;late=4;late=5;late=6;late=7;level0=1,1,", 60);
         });
+    }
+
+    /** What an earlier and longer text had at the place where this one ends does not go on with it. */
+    private static void endsBehindLongerTexts() {
+        String text = "level0=20,40,1;share3=9;spawn31=(c30i30(c1y)9)1c2i3;";
+        for (int length = 0; length < text.length(); length++) {
+            String cut = text.substring(0, length);
+            FeedbackQueueSimulator x = new FeedbackQueueSimulator();
+            Check.put(x, text);
+            x.execute();
+            Check.put(x, cut);
+            FeedbackQueueSimulator fresh = new FeedbackQueueSimulator();
+            Check.put(fresh, cut);
+            Check.due("execute of " + cut, Refusal.thrown(x, FeedbackQueueSimulator::execute),
+                    Refusal.thrown(fresh, FeedbackQueueSimulator::execute));
+            Check.due("errorPosition of " + cut, x.errorPosition(), fresh.errorPosition());
+        }
     }
 
     private static void numbers(Sentences s) {

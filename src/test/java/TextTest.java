@@ -8,6 +8,7 @@ public final class TextTest {
         errorsOfNumbers();
         errorsOfPrograms();
         limits();
+        tenProcesses();
         positions();
         Check.end();
     }
@@ -21,19 +22,19 @@ public final class TextTest {
         Check.due("6: they were in this order", x.execute(), 1);
         Check.due("6: the late margin", x.setOption(3, 1), 4);
         Check.due("6: edges", x.append('!' << 24 | '~'), 2);
-        Check.failsArgument("6: 32", x, () -> x.append(32));
-        Check.failsArgument("6: 127", x, () -> x.append('a' << 24 | 127));
-        Check.failsArgument("6: 128", x, () -> x.append(128 << 24 | 'a'));
-        Check.failsArgument("6: 255", x, () -> x.append(-1));
-        Check.failsArgument("6: 1", x, () -> x.append(1 << 8));
+        Check.failsArgument("6: 32", () -> x.append(32));
+        Check.failsArgument("6: 127", () -> x.append('a' << 24 | 127));
+        Check.failsArgument("6: 128", () -> x.append(128 << 24 | 'a'));
+        Check.failsArgument("6: 255", () -> x.append(-1));
+        Check.failsArgument("6: 1", () -> x.append(1 << 8));
         Check.due("6: unchanged", x.append(0), 2);
         for (int k = 3; k <= 59; k++) {
             Check.due("6: up to 59", x.append('x'), k);
         }
-        Check.failsState("6: 61", x, () -> x.append('a' << 24 | 'b'));
-        Check.failsArgument("6: argument before state", x, () -> x.append('a' << 24 | 'b' << 16 | 7));
+        Check.failsState("6: 61", () -> x.append('a' << 24 | 'b'));
+        Check.failsArgument("6: argument before state", () -> x.append('a' << 24 | 'b' << 16 | 7));
         Check.due("6: 60", x.append('z' << 24), 60);
-        Check.failsState("6: full", x, () -> x.append('a'));
+        Check.failsState("6: full", () -> x.append('a'));
         Check.due("6: nothing more", x.append(0), 60);
     }
 
@@ -79,62 +80,61 @@ public final class TextTest {
     }
 
     private static void errorsOfWords() {
-        FeedbackQueueSimulator x = new FeedbackQueueSimulator();
-        Check.bad(x, "", 0);
-        Check.bad(x, "boots=1;", 0);
-        Check.bad(x, "boos", 0);
-        Check.bad(x, "boostx=1;", 0);
-        Check.bad(x, "latez=1;", 0);
-        Check.bad(x, "latea=1;", 0);
-        Check.bad(x, "late{=1;", 4);
-        Check.bad(x, "5", 0);
-        Check.bad(x, "Boost=1;", 0);
-        Check.bad(x, "late=1;lates=1;", 7);
-        Check.bad(x, "late=1;;", 7);
-        Check.bad(x, "late=1;=", 7);
-        Check.bad(x, "levelx0=1,1,1;", 0);
-        Check.bad(x, "boost", 5);
-        Check.bad(x, "boost1;", 5);
-        Check.bad(x, "boost=", 6);
-        Check.bad(x, "boost=;", 6);
-        Check.bad(x, "boost=1", 7);
-        Check.bad(x, "boost=1,", 7);
-        Check.bad(x, "late=5;boost=1:", 14);
+        TextCases.bad("", 0);
+        TextCases.bad("boots=1;", 0);
+        TextCases.bad("boos", 0);
+        TextCases.bad("boostx=1;", 0);
+        TextCases.bad("latez=1;", 0);
+        TextCases.bad("latea=1;", 0);
+        TextCases.bad("late{=1;", 4);
+        TextCases.bad("5", 0);
+        TextCases.bad("Boost=1;", 0);
+        TextCases.bad("late=1;lates=1;", 7);
+        TextCases.bad("late=1;;", 7);
+        TextCases.bad("late=1;=", 7);
+        TextCases.bad("levelx0=1,1,1;", 0);
+        TextCases.bad("boost", 5);
+        TextCases.bad("boost1;", 5);
+        TextCases.bad("boost=", 6);
+        TextCases.bad("boost=;", 6);
+        TextCases.bad("boost=1", 7);
+        TextCases.bad("boost=1,", 7);
+        TextCases.bad("late=5;boost=1:", 14);
     }
 
     private static void errorsOfNumbers() {
         FeedbackQueueSimulator x = new FeedbackQueueSimulator();
-        Check.bad(x, "boost=201;", 6);
-        Check.bad(x, "boost=999;", 6);
-        Check.bad(x, "boost=1000;", 9);
-        Check.bad(x, "boost=2010;", 6);
-        Check.bad(x, "boost=00;", 7);
-        Check.bad(x, "boost=01;", 7);
-        Check.bad(x, "decay=201;", 6);
-        Check.bad(x, "factor=17;", 7);
-        Check.bad(x, "late=10;", 5);
-        Check.bad(x, "limit=0;", 6);
-        Check.bad(x, "limit=01;", 6);
-        Check.bad(x, "limit=10;", 6);
-        Check.bad(x, "strict=2;", 7);
-        Check.bad(x, "level3=1,1,1;", 5);
-        Check.bad(x, "levelx", 0);
-        Check.bad(x, "level=1,1,1;", 5);
-        Check.bad(x, "level", 5);
-        Check.bad(x, "level00=1,1,1;", 6);
-        Check.bad(x, "level0=0,1,1;", 7);
-        Check.bad(x, "level0=21,1,1;", 7);
-        Check.bad(x, "level0=1;", 8);
-        Check.bad(x, "level0=1,0,1;", 9);
-        Check.bad(x, "level0=1,41,1;", 9);
-        Check.bad(x, "level0=1,40,2;", 12);
-        Check.bad(x, "level0=1,40,1,", 13);
-        Check.bad(x, "level0=1,40;", 11);
-        Check.bad(x, "share4=1;", 5);
-        Check.bad(x, "share0=0;", 7);
-        Check.bad(x, "share0=10;", 7);
-        Check.bad(x, "share0=9", 8);
-        Check.bad(x, "share=9", 5);
+        TextCases.bad("boost=201;", 6);
+        TextCases.bad("boost=999;", 6);
+        TextCases.bad("boost=1000;", 9);
+        TextCases.bad("boost=2010;", 6);
+        TextCases.bad("boost=00;", 7);
+        TextCases.bad("boost=01;", 7);
+        TextCases.bad("decay=201;", 6);
+        TextCases.bad("factor=17;", 7);
+        TextCases.bad("late=10;", 5);
+        TextCases.bad("limit=0;", 6);
+        TextCases.bad("limit=01;", 6);
+        TextCases.bad("limit=10;", 6);
+        TextCases.bad("strict=2;", 7);
+        TextCases.bad("level3=1,1,1;", 5);
+        TextCases.bad("levelx", 0);
+        TextCases.bad("level=1,1,1;", 5);
+        TextCases.bad("level", 5);
+        TextCases.bad("level00=1,1,1;", 6);
+        TextCases.bad("level0=0,1,1;", 7);
+        TextCases.bad("level0=21,1,1;", 7);
+        TextCases.bad("level0=1;", 8);
+        TextCases.bad("level0=1,0,1;", 9);
+        TextCases.bad("level0=1,41,1;", 9);
+        TextCases.bad("level0=1,40,2;", 12);
+        TextCases.bad("level0=1,40,1,", 13);
+        TextCases.bad("level0=1,40;", 11);
+        TextCases.bad("share4=1;", 5);
+        TextCases.bad("share0=0;", 7);
+        TextCases.bad("share0=10;", 7);
+        TextCases.bad("share0=9", 8);
+        TextCases.bad("share=9", 5);
         x.setLevels(5);
         Check.good(x, "level4=1,1,1;", 1);
         Check.bad(x, "level5=1,1,1;", 5);
@@ -144,62 +144,70 @@ public final class TextTest {
 
     private static void errorsOfPrograms() {
         FeedbackQueueSimulator x = new FeedbackQueueSimulator();
-        Check.bad(x, "spawn", 5);
-        Check.bad(x, "spawn40=c1;", 5);
-        Check.bad(x, "spawn02=c1;", 6);
-        Check.bad(x, "spawn0=c1;", 6);
-        Check.bad(x, "spawn001=c1;", 7);
-        Check.bad(x, "spawn00=;", 8);
-        Check.bad(x, "spawn00=", 8);
-        Check.bad(x, "spawn00=c;", 9);
-        Check.bad(x, "spawn00=c0;", 9);
-        Check.bad(x, "spawn00=c31;", 9);
-        Check.bad(x, "spawn00=c1i;", 11);
-        Check.bad(x, "spawn00=c1i0;", 11);
-        Check.bad(x, "spawn00=c1i31;", 11);
-        Check.bad(x, "spawn00=c1yi1;", 11);
-        Check.bad(x, "spawn00=c1i1y;", 12);
-        Check.bad(x, "spawn00=y;", 8);
-        Check.bad(x, "spawn00=c1", 10);
-        Check.bad(x, "spawn00=c1)2;", 10);
-        Check.bad(x, "spawn00=();", 9);
-        Check.bad(x, "spawn00=(;", 9);
-        Check.bad(x, "spawn00=(c1;", 11);
-        Check.bad(x, "spawn00=(c1", 11);
-        Check.bad(x, "spawn00=(c1);", 12);
-        Check.bad(x, "spawn00=(c1)", 12);
-        Check.bad(x, "spawn00=(c1)0;", 12);
-        Check.bad(x, "spawn00=(c1)12;", 13);
-        Check.bad(x, "spawn00=(c1)2)2;", 13);
-        Check.bad(x, "spawn00=(c1)2y;", 13);
-        Check.bad(x, "spawn00=(c1(", 12);
-        Check.bad(x, "spawn00=((((c1)1)1)1)1;", 11);
-        Check.bad(x, "spawn00=c1(((c1(c1)2)2)2)2;", 15);
-        Check.bad(x, "spawn00=c1 ".trim() + ",", 10);
-        Check.bad(x, "late=2;spawn00=c1;share0=0;", 25);
+        TextCases.bad("spawn", 5);
+        TextCases.bad("spawn40=c1;", 5);
+        TextCases.bad("spawn02=c1;", 6);
+        TextCases.bad("spawn0=c1;", 6);
+        TextCases.bad("spawn001=c1;", 7);
+        TextCases.bad("spawn00=;", 8);
+        TextCases.bad("spawn00=", 8);
+        TextCases.bad("spawn00=c;", 9);
+        TextCases.bad("spawn00=c0;", 9);
+        TextCases.bad("spawn00=c31;", 9);
+        TextCases.bad("spawn00=c1i;", 11);
+        TextCases.bad("spawn00=c1i0;", 11);
+        TextCases.bad("spawn00=c1i31;", 11);
+        TextCases.bad("spawn00=c1yi1;", 11);
+        TextCases.bad("spawn00=c1i1y;", 12);
+        TextCases.bad("spawn00=y;", 8);
+        TextCases.bad("spawn00=c1", 10);
+        TextCases.bad("spawn00=c1)2;", 10);
+        TextCases.bad("spawn00=();", 9);
+        TextCases.bad("spawn00=(;", 9);
+        TextCases.bad("spawn00=(c1;", 11);
+        TextCases.bad("spawn00=(c1", 11);
+        TextCases.bad("spawn00=(c1);", 12);
+        TextCases.bad("spawn00=(c1)", 12);
+        TextCases.bad("spawn00=(c1)0;", 12);
+        TextCases.bad("spawn00=(c1)12;", 13);
+        TextCases.bad("spawn00=(c1)2)2;", 13);
+        TextCases.bad("spawn00=(c1)2y;", 13);
+        TextCases.bad("spawn00=(c1(", 12);
+        TextCases.bad("spawn00=((((c1)1)1)1)1;", 11);
+        TextCases.bad("spawn00=c1(((c1(c1)2)2)2)2;", 15);
+        TextCases.bad("spawn00=c1 ".trim() + ",", 10);
+        TextCases.bad("late=2;spawn00=c1;share0=0;", 25);
         Check.good(x, "spawn00=(((c1)1)1)1(((c1)1)1)1;", 1);
     }
 
     private static void limits() {
         FeedbackQueueSimulator x = new FeedbackQueueSimulator();
-        Check.bad(x, "spawn00=((c1)9)7;", 16);
-        Check.bad(x, "spawn00=(((c1)9)9)9c1;", 21);
-        Check.bad(x, "spawn00=(((c1)9)9)9c1)", 21);
-        Check.bad(x, "spawn00=(((c1)9)9)9c0;", 20);
-        Check.bad(x, "spawn00=((c1)6)9(c1)7;", 21);
-        Check.bad(x, "spawn00=c1((c1)6)9c1(c1)5;", 25);
+        TextCases.bad("spawn00=((c1)9)7;", 16);
+        TextCases.bad("spawn00=(((c1)9)9)9c1;", 21);
+        TextCases.bad("spawn00=(((c1)9)9)9c1)", 21);
+        TextCases.bad("spawn00=(((c1)9)9)9c0;", 20);
+        TextCases.bad("spawn00=((c1)6)9(c1)7;", 21);
+        TextCases.bad("spawn00=c1((c1)6)9c1(c1)5;", 25);
         Check.good(x, "spawn00=((c1)6)9c1(c1)5;", 1);
         x.run(60);
         Check.due("7: 60 units", x.property(0, 8), 60);
+    }
+
+    private static void tenProcesses() {
+        FeedbackQueueSimulator x = new FeedbackQueueSimulator();
         Check.good(x, "spawn00=c1;spawn00=c1;spawn00=c1;spawn00=c1;spawn00=c1;", 5);
+        x.spawn(0, 0, 1, 0, 1);
         Check.bad(x, "late=7;spawn00=c1;spawn00=c1;spawn00=c1;spawn00=c1;spawn00=", 51);
         Check.bad(x, "spawn00=c1;spawn00=c1;spawn00=c1;spawn00=c1;spawnxx", 44);
         Check.due("7: nothing was executed", x.total(5), 6);
         Check.good(x, "spawn00=c1;spawn00=c1;spawn00=c1;spawn00=c1;", 4);
         Check.due("7: 10 processes", x.total(5), 10);
-        Check.bad(x, "late=2;spawn00=c1;", 7);
-        Check.bad(x, "spawn99", 0);
-        Check.due("7: the option was not set", x.setOption(3, 1), 1);
+        FeedbackQueueSimulator y = new FeedbackQueueSimulator();
+        for (int p = 0; p < 10; p++) {
+            y.spawn(0, 0, 1, 0, 1);
+        }
+        Check.bad(y, "late=2;spawn00=c1;", 7);
+        Check.due("7: the option was not set", y.setOption(3, 1), 1);
     }
 
     private static void positions() {

@@ -214,7 +214,7 @@ final class TickCases {
             x.setOption(1, 5);
             x.setOption(2, 11);
             float[] usage = {1.0f, 2.0f, 3.0f, 4.0f};
-            for (int t = 10; t < 100; t++) {
+            for (int t = 10; t < 80; t++) {
                 x.tick();
                 Check.due("decays at " + t, x.total(4), (t - 5) / 5);
                 for (int user = 0; user < 4; user++) {
@@ -244,6 +244,7 @@ final class TickCases {
             Check.due("before the other", x.queued(1, 1), 1);
             Check.due("remaining quantum", x.property(0, 4), 0);
             Check.due("budget", x.property(0, 3), 1);
+            preemptedBeforeTwo();
             // The same level and a higher one preempt nobody.
             FeedbackQueueSimulator y = new FeedbackQueueSimulator();
             y.setLevel(0, 2, 2, 0);
@@ -260,6 +261,20 @@ final class TickCases {
             Check.ran(z, 0);
             Check.due("none", z.total(2), 0);
         });
+    }
+
+    private static void preemptedBeforeTwo() {
+        FeedbackQueueSimulator x = new FeedbackQueueSimulator();
+        for (int p = 0; p < 3; p++) {
+            x.spawn(0, 0, 30, 0, 1);
+        }
+        x.run(13);
+        Check.due("current at level 1", x.state(0), 1);
+        x.spawn(0, 0, 1, 0, 1);
+        Check.ran(x, 3);
+        for (int place = 0; place < 3; place++) {
+            Check.due("place " + place, x.queued(1, place), place);
+        }
     }
 
     private static void dispatch(Sentences s) {

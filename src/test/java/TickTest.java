@@ -34,9 +34,9 @@ public final class TickTest {
 
     private static void runs() {
         FeedbackQueueSimulator x = new FeedbackQueueSimulator();
-        Check.failsArgument("14: 0", x, () -> x.run(0));
-        Check.failsArgument("14: 201", x, () -> x.run(201));
-        Check.failsArgument("14: -1", x, () -> x.run(-1));
+        Check.failsArgument("14: 0", () -> x.run(0));
+        Check.failsArgument("14: 201", () -> x.run(201));
+        Check.failsArgument("14: -1", () -> x.run(-1));
         Check.due("14: 1", x.run(1), 1);
         x.spawn(0, 0, 5, 10, 2);
         Check.due("14: only its own idle ticks", x.run(5), 0);
@@ -58,8 +58,8 @@ public final class TickTest {
         Check.due("16: current", x.state(1), 1);
         x.kill(1);
         Check.due("16: killed", x.state(1), 4);
-        Check.failsIndex("16: no such process", x, () -> x.state(2));
-        Check.failsIndex("16: -1", x, () -> x.state(-1));
+        Check.failsIndex("16: no such process", () -> x.state(2));
+        Check.failsIndex("16: -1", () -> x.state(-1));
     }
 
     private static void wakingOrder() {
@@ -328,10 +328,10 @@ public final class TickTest {
         x.run(10);
         Check.due("17: end", x.property(0, 8), 13);
         Check.due("17: end", x.property(1, 8), 15);
-        Check.failsIndex("17: process 2", x, () -> x.property(2, 0));
-        Check.failsIndex("17: index before argument", x, () -> x.property(-1, 12));
-        Check.failsArgument("17: 12", x, () -> x.property(1, 12));
-        Check.failsArgument("17: -1", x, () -> x.property(1, -1));
+        Check.failsIndex("17: process 2", () -> x.property(2, 0));
+        Check.failsIndex("17: index before argument", () -> x.property(-1, 12));
+        Check.failsArgument("17: 12", () -> x.property(1, 12));
+        Check.failsArgument("17: -1", () -> x.property(1, -1));
     }
 
     private static void queues() {
@@ -344,13 +344,13 @@ public final class TickTest {
         x.tick();
         Check.due("18: all but the current one", x.queueLength(0), 9);
         Check.due("19: first", x.queued(0, 0), 1);
-        Check.failsIndex("19: place 9", x, () -> x.queued(0, 9));
-        Check.failsIndex("19: place -1", x, () -> x.queued(0, -1));
-        Check.failsIndex("19: empty queue", x, () -> x.queued(1, 0));
-        Check.failsIndex("19: level 3", x, () -> x.queued(3, 0));
-        Check.failsIndex("19: level -1", x, () -> x.queued(-1, 0));
-        Check.failsIndex("18: level 3", x, () -> x.queueLength(3));
-        Check.failsIndex("18: level -1", x, () -> x.queueLength(-1));
+        Check.failsIndex("19: place 9", () -> x.queued(0, 9));
+        Check.failsIndex("19: place -1", () -> x.queued(0, -1));
+        Check.failsIndex("19: empty queue", () -> x.queued(1, 0));
+        Check.failsIndex("19: level 3", () -> x.queued(3, 0));
+        Check.failsIndex("19: level -1", () -> x.queued(-1, 0));
+        Check.failsIndex("18: level 3", () -> x.queueLength(3));
+        Check.failsIndex("18: level -1", () -> x.queueLength(-1));
         x.run(39);
         Check.due("18: level 1", x.queueLength(1), 10);
         Check.due("18: level 0", x.queueLength(0), 0);
@@ -358,18 +358,18 @@ public final class TickTest {
 
     private static void past() {
         FeedbackQueueSimulator x = new FeedbackQueueSimulator();
-        Check.failsIndex("20: no tick yet", x, () -> x.history(0));
+        Check.failsIndex("20: no tick yet", () -> x.history(0));
         x.spawn(0, 0, 2, 0, 1);
         x.run(3);
         Check.due("20: idle", x.history(0), -1);
         Check.due("20: ran", x.history(1), 0);
         Check.due("20: ran", x.history(2), 0);
-        Check.failsIndex("20: before the first", x, () -> x.history(3));
-        Check.failsIndex("20: -1", x, () -> x.history(-1));
+        Check.failsIndex("20: before the first", () -> x.history(3));
+        Check.failsIndex("20: -1", () -> x.history(-1));
         x.run(30);
         Check.due("20: the oldest of 32", x.history(31), 0);
         Check.due("20: the next", x.history(30), -1);
-        Check.failsIndex("20: 32", x, () -> x.history(32));
+        Check.failsIndex("20: 32", () -> x.history(32));
         x.tick();
         Check.due("20: forgotten", x.history(31), -1);
     }
