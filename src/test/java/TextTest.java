@@ -194,20 +194,25 @@ public final class TextTest {
     }
 
     private static void tenProcesses() {
-        FeedbackQueueSimulator x = new FeedbackQueueSimulator();
+        FeedbackQueueSimulator x = processes(1);
         Check.good(x, "spawn00=c1;spawn00=c1;spawn00=c1;spawn00=c1;spawn00=c1;", 5);
-        x.spawn(0, 0, 1, 0, 1);
         Check.bad(x, "late=7;spawn00=c1;spawn00=c1;spawn00=c1;spawn00=c1;spawn00=", 51);
-        Check.bad(x, "spawn00=c1;spawn00=c1;spawn00=c1;spawn00=c1;spawnxx", 44);
         Check.due("7: nothing was executed", x.total(5), 6);
         Check.good(x, "spawn00=c1;spawn00=c1;spawn00=c1;spawn00=c1;", 4);
         Check.due("7: 10 processes", x.total(5), 10);
-        FeedbackQueueSimulator y = new FeedbackQueueSimulator();
-        for (int p = 0; p < 10; p++) {
-            y.spawn(0, 0, 1, 0, 1);
-        }
+        Check.bad(processes(6), "spawn00=c1;spawn00=c1;spawn00=c1;spawn00=c1;spawnxx", 44);
+        Check.bad(processes(10), "spawn99", 0);
+        FeedbackQueueSimulator y = processes(10);
         Check.bad(y, "late=2;spawn00=c1;", 7);
         Check.due("7: the option was not set", y.setOption(3, 1), 1);
+    }
+
+    private static FeedbackQueueSimulator processes(int number) {
+        FeedbackQueueSimulator x = new FeedbackQueueSimulator();
+        for (int p = 0; p < number; p++) {
+            x.spawn(0, 0, 1, 0, 1);
+        }
+        return x;
     }
 
     private static void positions() {
