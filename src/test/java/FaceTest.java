@@ -26,7 +26,7 @@ public final class FaceTest {
 
     public static void main(String[] args) throws IOException {
         face();
-        exceptions();
+        document();
         members();
         room();
         Check.end();
@@ -47,56 +47,78 @@ public final class FaceTest {
         Check.due("the public methods", got.toString(), due.toString());
         int modifiers = FeedbackQueueSimulator.class.getModifiers();
         Check.due("public and final", Modifier.toString(modifiers), "public final");
+        Check.due("nothing comes from above", FeedbackQueueSimulator.class.getSuperclass().getName(), "java.lang.Object");
+        Check.due("nor from the side", FeedbackQueueSimulator.class.getInterfaces().length, 0);
         Constructor<?>[] constructors = FeedbackQueueSimulator.class.getDeclaredConstructors();
         Check.due("constructors", constructors.length, 1);
         Check.due("its parameters", constructors[0].getParameterCount(), 0);
         Check.due("public", Modifier.isPublic(constructors[0].getModifiers()) ? 1 : 0, 1);
     }
 
-    /** The throws clauses, as the face in the document writes them. */
-    private static void exceptions() throws IOException {
+    /** The face, line by line as the document writes it: types, names, parameters and throws clauses. */
+    private static void document() throws IOException {
         if (!Files.exists(DOCUMENT)) {
-            System.out.println(DOCUMENT + " was not found: the throws clauses were not compared with it");
+            System.out.println(DOCUMENT + " was not found: the face was not compared with it");
             return;
         }
-        Matcher lines = Pattern.compile("    public (?:int|long) (\\w+)\\([^)]*\\)(?: throws ([\\w, ]+))?;")
-                .matcher(Files.readString(DOCUMENT));
-        int found = 0;
+        String text = Files.readString(DOCUMENT);
+        int begin = text.indexOf("public final class FeedbackQueueSimulator {");
+        int end = text.indexOf("```", begin);
+        Check.due("the face stands in the document", begin >= 0 && end > begin ? 1 : 0, 1);
+        Set<String> due = new TreeSet<>();
+        Matcher lines = Pattern.compile("^    public (.*);$", Pattern.MULTILINE).matcher(text.substring(begin, end));
         while (lines.find()) {
-            found++;
-            for (Method method : FeedbackQueueSimulator.class.getDeclaredMethods()) {
-                if (method.getName().equals(lines.group(1))) {
-                    StringBuilder names = new StringBuilder();
-                    for (Class<?> type : method.getExceptionTypes()) {
-                        names.append(names.length() == 0 ? "" : ", ").append(type.getSimpleName());
-                    }
-                    String due = lines.group(2) == null ? "" : lines.group(2);
-                    Check.due("the exceptions of " + method.getName(), names.toString(), due);
-                }
+            // The names of parameters are not in a compiled class.
+            due.add(lines.group(1).replaceAll("(int|long) \\w+(?=[,)])", "$1"));
+        }
+        Set<String> got = new TreeSet<>();
+        for (Method method : FeedbackQueueSimulator.class.getDeclaredMethods()) {
+            if (Modifier.isPublic(method.getModifiers())) {
+                got.add(method.getReturnType().getName() + " " + method.getName() + "("
+                        + names(method.getParameterTypes()) + ")" + thrown(method.getExceptionTypes()));
+                Check.due("no other modifier: " + method, Modifier.toString(method.getModifiers()), "public");
             }
         }
-        Check.due("methods in the document", found, FACE.split("(?<=\\)) ").length);
+        for (Constructor<?> constructor : FeedbackQueueSimulator.class.getDeclaredConstructors()) {
+            got.add("FeedbackQueueSimulator(" + names(constructor.getParameterTypes()) + ")"
+                    + thrown(constructor.getExceptionTypes()));
+        }
+        Check.due("the face of the document", got.toString(), due.toString());
+    }
+
+    private static String names(Class<?>[] types) {
+        StringBuilder names = new StringBuilder();
+        for (Class<?> type : types) {
+            names.append(names.length() == 0 ? "" : ", ").append(type.getSimpleName());
+        }
+        return names.toString();
+    }
+
+    private static String thrown(Class<?>[] types) {
+        return types.length == 0 ? "" : " throws " + names(types);
     }
 
     private static void members() {
-        Set<String> open = new TreeSet<>();
+        Set<String> face = new TreeSet<>();
         for (Method method : FeedbackQueueSimulator.class.getDeclaredMethods()) {
             if (Modifier.isPublic(method.getModifiers())) {
-                open.add(method.getName());
+                face.add(method.getName());
             }
         }
         for (Method method : FeedbackQueueSimulator.class.getDeclaredMethods()) {
             boolean hidden = Modifier.isPrivate(method.getModifiers());
             Check.due("public or private: " + method, hidden || Modifier.isPublic(method.getModifiers()) ? 1 : 0, 1);
-            Check.due("a name of its own: " + method, hidden && open.contains(method.getName()) ? 1 : 0, 0);
+            Check.due("a name of its own: " + method, hidden && face.contains(method.getName()) ? 1 : 0, 0);
         }
         for (Field field : FeedbackQueueSimulator.class.getDeclaredFields()) {
             Check.due("private: " + field, Modifier.isPrivate(field.getModifiers()) ? 1 : 0, 1);
         }
         for (Class<?> inside : FeedbackQueueSimulator.class.getDeclaredClasses()) {
             Check.due("static: " + inside, Modifier.isStatic(inside.getModifiers()) ? 1 : 0, 1);
+            boolean open = Modifier.isPublic(inside.getModifiers()) || Modifier.isProtected(inside.getModifiers());
+            Check.due("private or package-visible: " + inside, open ? 1 : 0, 0);
             for (Method method : inside.getDeclaredMethods()) {
-                Check.due("a name of its own: " + method, open.contains(method.getName()) ? 1 : 0, 0);
+                Check.due("a name of its own: " + method, face.contains(method.getName()) ? 1 : 0, 0);
             }
             for (Field field : inside.getDeclaredFields()) {
                 boolean fixed = !Modifier.isStatic(field.getModifiers()) || Modifier.isFinal(field.getModifiers());
