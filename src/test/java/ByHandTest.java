@@ -4,6 +4,7 @@ public final class ByHandTest {
         TicksByHand.check();
         SharesByHand.check();
         GamingByHand.check();
+        KillsByHand.check();
         PredictionsByHand.check();
         Check.end();
     }
