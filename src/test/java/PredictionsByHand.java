@@ -103,6 +103,25 @@ final class PredictionsByHand {
         x.tick();
         Check.due("2 ticks: 1, 0", x.bestBoost(2), 0);
         Check.due("3 ticks: 1, 0, 0 without a boost", x.bestBoost(3), 1);
+        boostOfFairLevel();
+    }
+
+    /** Process 0 is at level 1, process 1 goes back to level 0 behind each tick; user 1 has a ratio of 1/9. */
+    private static void boostOfFairLevel() {
+        FeedbackQueueSimulator x = new FeedbackQueueSimulator();
+        x.setLevels(2);
+        x.setLevel(0, 1, 1, 1);
+        x.setShare(1, 9);
+        x.spawn(1, 0, 30, 0, 1);
+        x.tick();
+        x.setLevel(0, 1, 40, 1);
+        x.spawn(0, 0, 30, 0, 1);
+        // Without a boost process 0 waits for all ticks; boosted to level 0, it has its turn at 2, when user 0 has 1.
+        Check.due("1 tick", x.bestBoost(1), 0);
+        Check.due("2 ticks: 1, 1 or 1, 0", x.bestBoost(2), 1);
+        Check.due("without a boost", x.starvation(2, 0), 2);
+        x.setOption(0, 1);
+        Check.due("with a boost", x.starvation(2, 0), 1);
     }
 
     private static void unfairness() {
